@@ -261,6 +261,24 @@ public final class ExchangesTest {
         x.cancel(4);
         Check.due("30 a cancelled booking is no chain's", 1, () -> x.exchange(3));
         at("30 a cancelled booking is no chain's", x, 2, 0, 0);
+        promise30Cancelled();
+    }
+
+    private static void promise30Cancelled() {
+        BoxofficeRow x = rowsOf(2, 2, 2);
+        book(x, 0, 0, 2);
+        book(x, 1, 0, 2);
+        x.wish(1, 1);
+        x.wish(2, 2);
+        x.cancel(2);
+        Check.notNow("30 closed, though it had a wish", () -> x.exchange(2));
+        at("30 closed, though it had a wish", x, 2, 0, 0);
+        x.holdAt(1, 0, 2, 200);
+        Check.notNow("30 nobody there with a wish", () -> x.exchange(1));
+        x.pay(3);
+        Check.notNow("30 a booking without a wish", () -> x.exchange(1));
+        x.wish(3, 2);
+        Check.due("30 now there is a chain", 2, () -> x.exchange(1));
     }
 
     private static void promise30WishesEnd() {

@@ -115,12 +115,25 @@ public final class TicketsTest {
         }
         x.pass(29);
         Check.due("22 not at the old end", 0, () -> x.ticketState(1));
-        Check.due("22 before the end", 0, () -> x.pass(0 + 1) - 1);
+        Check.due("22 still held before the end", 0, () -> x.ticketState(2));
+        Check.due("22 at the end", 1, () -> x.pass(1));
         Check.notNow("22 ran out", () -> x.extend(2, 5));
         x.pay(1);
         Check.notNow("22 booking", () -> x.extend(1, 5));
         x.cancel(1);
         Check.notNow("22 closed", () -> x.extend(1, 5));
+        promise22NeverExtended();
+    }
+
+    private static void promise22NeverExtended() {
+        BoxofficeRow x = twoHolds();
+        x.pay(1);
+        Check.notNow("22 booking", () -> x.extend(1, 5));
+        x.cancel(1);
+        Check.notNow("22 cancelled", () -> x.extend(1, 5));
+        x.pass(20);
+        Check.notNow("22 ran out", () -> x.extend(2, 5));
+        Check.due("22 stays closed", 2, () -> x.ticketState(2));
     }
 
     private static void promise23Pay() {
