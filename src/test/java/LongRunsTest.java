@@ -1,14 +1,19 @@
 /** Long runs of calls, each answer held against PlainOffice; the numbers come from a fixed rule. */
 public final class LongRunsTest {
-    private static final int RUNS = 700;
-    private static final int CALLS = 480;
+    private static final int RUNS = 3000;
+    private static final int PROMISED_CALLS = 512;
+    private static final int LAST_LOOKS = 80;
 
     private long seed;
     private BoxofficeRow real;
     private PlainOffice plain;
     private String run;
+    private int made;
     private int wrongShare;
+    private int largestRow;
     private int largestBooking;
+    private int wishShare;
+    private int wishedStep;
 
     public static void main(String[] args) {
         for (int run = 0; run < RUNS; run++) {
@@ -35,30 +40,48 @@ public final class LongRunsTest {
         run = "run " + number + " ";
         real = new BoxofficeRow();
         plain = new PlainOffice();
+        made = 0;
         wrongShare = number % 4 == 0 ? 60 : 4;
         boolean exchanges = number % 2 == 1;
-        int rows = exchanges ? pick(3, 6) : pick(1, 4);
-        int longest = exchanges ? pick(2, 6) : pick(2, 20);
-        int scores = pick(0, 3) * 4;
-        largestBooking = pick(1, 2);
-        for (int row = 0; row < rows; row++) {
-            addRow(pick(1, longest), pick(0, scores), pick(0, 50));
-        }
+        boolean large = number % 5 == 0;
+        openHall(exchanges, large);
         if (exchanges) {
-            fillHall();
+            fillHall(large ? 60 : 30);
+        } else if (large) {
+            blockSome();
         }
-        for (int call = 0; call < CALLS; call++) {
+        while (made < PROMISED_CALLS - LAST_LOOKS) {
             if (exchanges) {
                 exchangeCall();
             } else {
                 anyCall();
             }
         }
-        compareSeats();
+        while (made < PROMISED_CALLS) {
+            compareRow();
+        }
     }
 
-    private void fillHall() {
-        for (int ticket = 1; ticket <= 30; ticket++) {
+    private void openHall(boolean exchanges, boolean large) {
+        int rows = large ? pick(8, 12) : exchanges ? pick(3, 6) : pick(1, 4);
+        largestRow = large && !exchanges ? 20 : exchanges ? pick(2, 6) : pick(2, 20);
+        int scores = pick(0, 3) * 4;
+        largestBooking = pick(1, 2);
+        wishShare = large ? pick(10, 14) : pick(6, 11);
+        wishedStep = pick(0, 2);
+        for (int row = 0; row < rows; row++) {
+            addRow(pick(1, largestRow), pick(0, scores), pick(0, 50));
+        }
+    }
+
+    private void blockSome() {
+        for (int seat = pick(0, 80); seat > 0; seat--) {
+            toggle(pick(0, plain.rows() - 1), near(0, largestRow - 1));
+        }
+    }
+
+    private void fillHall(int tickets) {
+        for (int ticket = 1; ticket <= tickets; ticket++) {
             bookOne();
         }
     }
@@ -76,8 +99,12 @@ public final class LongRunsTest {
         return near(pick(0, 3) == 0 ? 1 : Math.max(1, newest - 6), newest);
     }
 
+    /** Beyond the last promised call every answer would be right. */
     private void same(String call, Check.Call want, Check.Call got) {
-        Check.same(run + call, Check.told(want), Check.told(got));
+        if (made < PROMISED_CALLS) {
+            made++;
+            Check.same(run + call, Check.told(want), Check.told(got));
+        }
     }
 
     private void addRow(int seats, int score, int price) {
@@ -99,8 +126,8 @@ public final class LongRunsTest {
 
     private void ask(int which) {
         int row = near(0, plain.rows() - 1);
-        int seat = near(0, 5);
-        int seats = near(1, 8);
+        int seat = near(0, largestRow - 1);
+        int seats = near(1, pick(0, 3) == 0 ? 20 : 8);
         switch (which) {
             case 0 -> same("state", () -> plain.state(row, seat), () -> real.state(row, seat));
             case 1 -> same("ticketAt", () -> plain.ticketAt(row, seat), () -> real.ticketAt(row, seat));
@@ -115,16 +142,20 @@ public final class LongRunsTest {
 
     private void request(int which) {
         int row = near(0, plain.rows() - 1);
-        int seat = near(0, 6);
-        int seats = near(1, 4);
+        int seat = near(0, largestRow - 1);
+        int seats = near(1, pick(0, 9) == 0 ? 20 : 4);
         int minutes = near(1, pick(0, 9) == 0 ? 200 : 20);
         switch (which) {
             case 8 -> same("hold", () -> plain.hold(seats, minutes), () -> real.hold(seats, minutes));
             case 9 -> same("holdAt", () -> plain.holdAt(row, seat, seats, minutes),
                 () -> real.holdAt(row, seat, seats, minutes));
-            case 10 -> same("toggleBlocked", () -> plain.toggleBlocked(row, seat), () -> real.toggleBlocked(row, seat));
+            case 10 -> toggle(row, seat);
             default -> pass(pick(0, 20) == 0 ? near(1, 1000) : near(1, 10));
         }
+    }
+
+    private void toggle(int row, int seat) {
+        same("toggleBlocked", () -> plain.toggleBlocked(row, seat), () -> real.toggleBlocked(row, seat));
     }
 
     private void pass(int minutes) {
@@ -169,19 +200,27 @@ public final class LongRunsTest {
         int ticket = near(1, Math.max(1, plain.tickets()));
         if (which < 3) {
             bookOne();
-        } else if (which < 11) {
-            wish(ticket, near(0, plain.rows() - 1));
+        } else if (which < wishShare) {
+            wish(ticket, wishedRow(ticket));
         } else if (which < 15) {
             same("exchange", () -> plain.exchange(ticket), () -> real.exchange(ticket));
         } else if (which == 15 && pick(0, 4) == 0) {
             same("cancel", () -> plain.cancel(ticket), () -> real.cancel(ticket));
         } else if (which == 16) {
-            compareSeats();
+            compareRow();
         } else if (which == 17 && pick(0, 9) == 0) {
             group(23);
         } else {
             compareTicket(ticket);
         }
+    }
+
+    /** Chains are long only where most wish to go the same way round the hall. */
+    private int wishedRow(int ticket) {
+        if (wishedStep == 0 || pick(0, 15) == 0) {
+            return near(0, plain.rows() - 1);
+        }
+        return (plain.rowSat(Math.max(1, ticket)) + wishedStep) % plain.rows();
     }
 
     private void compareTicket(int ticket) {
@@ -194,14 +233,12 @@ public final class LongRunsTest {
         same("now", () -> plain.now(), () -> real.now());
     }
 
-    private void compareSeats() {
-        for (int row = 0; row < plain.rows(); row++) {
-            for (int seat = 0; seat < 20; seat++) {
-                int atRow = row;
-                int atSeat = seat;
-                same("ticketAt", () -> plain.ticketAt(atRow, atSeat), () -> real.ticketAt(atRow, atSeat));
-                same("state", () -> plain.state(atRow, atSeat), () -> real.state(atRow, atSeat));
-            }
+    private void compareRow() {
+        int row = pick(0, plain.rows() - 1);
+        for (int seat = 0; seat < largestRow; seat++) {
+            int at = seat;
+            same("ticketAt", () -> plain.ticketAt(row, at), () -> real.ticketAt(row, at));
+            same("state", () -> plain.state(row, at), () -> real.state(row, at));
         }
     }
 }

@@ -2,10 +2,15 @@ import java.util.ArrayList;
 import java.util.List;
 
 /**
- * The document once more, by trying every split and every chain. Nothing of it is shared with the
- * program, so that the two can be held against each other; meant for small halls alone.
+ * The document once more, by trying every block, every split of a small hall and every chain. Nothing of it is
+ * shared with the program, so that the two can be held against each other.
  */
 final class PlainOffice {
+    private static final int SMALL_HALL = 4;
+    private static final int IMPOSSIBLE = Integer.MIN_VALUE;
+    // More than any chain of a hall of 12 rows needs: one that comes into a row twice has a shorter one beside it.
+    private static final int LONGEST_CHAIN = 14;
+
     private static final class Seat {
         int ticket = 0;
         boolean blocked = false;
@@ -240,23 +245,35 @@ final class PlainOffice {
         return ticket;
     }
 
-    private void allSplits(int row, int left, int[] taken, List<int[]> all) {
-        if (row == rows.size()) {
+    /** The value of the block of each number of seats in each row, IMPOSSIBLE if there is none. */
+    private int[][] blockValues() {
+        int[][] values = new int[rows.size()][21];
+        for (int row = 0; row < rows.size(); row++) {
+            for (int seats = 0; seats <= 20; seats++) {
+                int first = seats == 0 ? 0 : rows.get(row).best(seats);
+                values[row][seats] = seats == 1 || first < 0 ? IMPOSSIBLE : rows.get(row).blockValue(first, seats);
+            }
+        }
+        return values;
+    }
+
+    private static void allSplits(int row, int left, int[] taken, int[][] values, List<int[]> all) {
+        if (row == values.length) {
             if (left == 0) {
                 all.add(taken.clone());
             }
             return;
         }
         for (int seats = 0; seats <= Math.min(left, 20); seats++) {
-            if (seats == 0 || seats >= 2 && rows.get(row).best(seats) >= 0) {
+            if (values[row][seats] != IMPOSSIBLE) {
                 taken[row] = seats;
-                allSplits(row + 1, left - seats, taken, all);
+                allSplits(row + 1, left - seats, taken, values, all);
                 taken[row] = 0;
             }
         }
     }
 
-    private int used(int[] split) {
+    private static int used(int[] split) {
         int used = 0;
         for (int seats : split) {
             used += seats > 0 ? 1 : 0;
@@ -264,20 +281,20 @@ final class PlainOffice {
         return used;
     }
 
-    private int value(int[] split) {
+    private static int value(int[] split, int[][] values) {
         int sum = 0;
         for (int row = 0; row < split.length; row++) {
-            sum += split[row] == 0 ? 0 : rows.get(row).blockValue(rows.get(row).best(split[row]), split[row]);
+            sum += values[row][split[row]];
         }
         return sum;
     }
 
-    private boolean better(int[] split, int[] than) {
+    private static boolean better(int[] split, int[] than, int[][] values) {
         if (used(split) != used(than)) {
             return used(split) < used(than);
         }
-        if (value(split) != value(than)) {
-            return value(split) > value(than);
+        if (value(split, values) != value(than, values)) {
+            return value(split, values) > value(than, values);
         }
         for (int row = 0; row < split.length; row++) {
             if (split[row] != than[row]) {
@@ -287,15 +304,42 @@ final class PlainOffice {
         return false;
     }
 
+    private static int[] bestOfAll(int people, int[][] values) {
+        List<int[]> all = new ArrayList<>();
+        allSplits(0, people, new int[values.length], values, all);
+        int[] best = null;
+        for (int[] split : all) {
+            best = best == null || better(split, best, values) ? split : best;
+        }
+        return best;
+    }
+
+    /** For halls with too many splits: from the last row on, the best one for each number of people is kept. */
+    private static int[] bestRowByRow(int people, int[][] values) {
+        int[][] best = new int[people + 1][];
+        best[0] = new int[values.length];
+        for (int row = values.length - 1; row >= 0; row--) {
+            int[][] longer = best.clone();
+            for (int rest = 0; rest <= people; rest++) {
+                for (int seats = 2; best[rest] != null && seats <= Math.min(20, people - rest); seats++) {
+                    int[] split = best[rest].clone();
+                    split[row] = seats;
+                    int[] other = longer[rest + seats];
+                    if (values[row][seats] != IMPOSSIBLE && (other == null || better(split, other, values))) {
+                        longer[rest + seats] = split;
+                    }
+                }
+            }
+            best = longer;
+        }
+        return best[people];
+    }
+
     private int[] split(int people) {
         argument(within(people, 2, 100));
-        List<int[]> all = new ArrayList<>();
-        allSplits(0, people, new int[rows.size()], all);
-        state(!all.isEmpty());
-        int[] best = all.get(0);
-        for (int[] split : all) {
-            best = better(split, best) ? split : best;
-        }
+        int[][] values = blockValues();
+        int[] best = rows.size() <= SMALL_HALL ? bestOfAll(people, values) : bestRowByRow(people, values);
+        state(best != null);
         return best;
     }
 
@@ -421,9 +465,10 @@ final class PlainOffice {
         return next;
     }
 
-    private int rowSat(int ticket) {
+    /** The row of the first of its seats, -1 if it has none. */
+    int rowSat(int ticket) {
         List<int[]> seats = seatsWith(ticket);
-        return seats.get(0)[0];
+        return seats.isEmpty() ? -1 : seats.get(0)[0];
     }
 
     int wish(int ticket, int row) {
@@ -442,20 +487,50 @@ final class PlainOffice {
         return ticket(ticket).state == 1 && ticket(ticket).wish >= 0;
     }
 
-    /** All chains of a length that go on from the given bookings, in the order that the document asks for. */
-    private List<Integer> firstChain(List<Integer> chain, int length) {
-        int last = chain.get(chain.size() - 1);
+    private boolean canEnd(int first, int last) {
         int wish = ticket(last).wish;
-        int size = seatsOf(chain.get(0));
+        return rows.get(wish).best(seatsOf(first)) >= 0 || rowSat(first) == wish;
+    }
+
+    private boolean takesOver(int ticket, int next) {
+        return seatsOf(next) == seatsOf(ticket) && rowSat(next) == ticket(ticket).wish;
+    }
+
+    /** Whether so many more bookings can follow a ticket, were a booking allowed twice; without, too many ways are tried. */
+    private boolean[][] couldFollow(int first) {
+        boolean[][] could = new boolean[LONGEST_CHAIN][tickets.size() + 1];
+        for (int more = 0; more < LONGEST_CHAIN; more++) {
+            for (int ticket = 1; ticket <= tickets.size(); ticket++) {
+                could[more][ticket] = wishing(ticket) && (more == 0 ? canEnd(first, ticket)
+                    : couldGoOn(ticket, could[more - 1]));
+            }
+        }
+        return could;
+    }
+
+    private boolean couldGoOn(int ticket, boolean[] could) {
+        for (int next = 1; next <= tickets.size(); next++) {
+            if (could[next] && takesOver(ticket, next)) {
+                return true;
+            }
+        }
+        return false;
+    }
+
+    /** The first chain of a length that goes on from the given bookings, in the order that the document asks for. */
+    private List<Integer> firstChain(List<Integer> chain, int length, boolean[][] could) {
+        int last = chain.get(chain.size() - 1);
+        if (!could[length - chain.size()][last]) {
+            return null;
+        }
         if (chain.size() == length) {
-            boolean ends = rows.get(wish).best(size) >= 0 || rowSat(chain.get(0)) == wish;
-            return ends ? chain : null;
+            return chain;
         }
         for (int next = 1; next <= tickets.size(); next++) {
-            if (wishing(next) && !chain.contains(next) && seatsOf(next) == size && rowSat(next) == wish) {
+            if (wishing(next) && !chain.contains(next) && takesOver(last, next)) {
                 List<Integer> longer = new ArrayList<>(chain);
                 longer.add(next);
-                List<Integer> found = firstChain(longer, length);
+                List<Integer> found = firstChain(longer, length, could);
                 if (found != null) {
                     return found;
                 }
@@ -464,13 +539,19 @@ final class PlainOffice {
         return null;
     }
 
+    private List<Integer> chainFrom(int ticket) {
+        boolean[][] could = couldFollow(ticket);
+        List<Integer> chain = null;
+        for (int length = 1; length <= LONGEST_CHAIN && chain == null; length++) {
+            chain = firstChain(List.of(ticket), length, could);
+        }
+        return chain;
+    }
+
     int exchange(int ticket) {
         ticket(ticket);
         state(wishing(ticket));
-        List<Integer> chain = null;
-        for (int length = 1; length <= 12 && chain == null; length++) {
-            chain = firstChain(List.of(ticket), length);
-        }
+        List<Integer> chain = chainFrom(ticket);
         state(chain != null);
         int size = seatsOf(ticket);
         int last = chain.get(chain.size() - 1);
