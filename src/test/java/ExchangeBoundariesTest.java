@@ -37,6 +37,9 @@ public final class ExchangeBoundariesTest {
         termsFormerSeatsBecomeFree();
         termsNoMoney();
         termsAgainAfterAnExchange();
+        termsAgainAfterAChain();
+        termsAgainAfterALongerChain();
+        termsAgainAfterARing();
         termsHundredBookings();
         Check.end("ExchangeBoundariesTest");
     }
@@ -124,6 +127,10 @@ public final class ExchangeBoundariesTest {
         Scene moved = group.and("wish 1 0", "exchange 1");
         tickets(moved, 0, 1, 1, 1, 0);
         tickets(moved, 1, 0, 0, 0);
+        Scene between = rows(3, 4, 4).and("holdGroup 4 9", "pay 1");
+        between.due(1, "ticketAt 1 0");
+        between.due(Scene.NOT_NOW, "wish 1 1");
+        tickets(between.and("wish 1 2", "exchange 1"), 1, 0, 0, 0, 0);
     }
 
     // ---- 30: exchange
@@ -338,6 +345,43 @@ public final class ExchangeBoundariesTest {
         Scene followed = moved.and("wish 1 2", booked(2, 0, 0, 2), "wish 2 1");
         followed.due(2, "exchange 2", "exchange 2; freeSeats 0", "exchange 2; ticketAt 1 0");
         followed.due(1, "exchange 1", "exchange 2; ticketAt 2 1");
+    }
+
+    /** The block that was taken over begins at another seat than the one that was left. */
+    private static void termsAgainAfterAChain() {
+        Scene chain = rows(3, 3, 3).and(booked(1, 0, 0, 2), "wish 1 1", booked(2, 1, 1, 2), "wish 2 2", "exchange 1");
+        tickets(chain, 1, 0, 1, 1);
+        tickets(chain, 2, 2, 2, 0);
+        Scene back = chain.and("wish 1 0", "exchange 1");
+        tickets(back, 0, 1, 1, 0);
+        tickets(back, 1, 0, 0, 0);
+        Scene behind = chain.and("wish 2 0", "exchange 2", "wish 1 2", "exchange 1");
+        tickets(behind, 0, 2, 2, 0);
+        tickets(behind, 1, 0, 0, 0);
+        tickets(behind, 2, 1, 1, 0);
+    }
+
+    /** The bookings of the longer chain before are not in the shorter one. */
+    private static void termsAgainAfterALongerChain() {
+        Scene longer = rows(1, 1, 1, 2).and(booked(1, 0, 0, 1), "wish 1 1", booked(2, 1, 0, 1), "wish 2 2", booked(3, 2, 0, 1),
+            "wish 3 3", "exchange 1");
+        longer.due(3, "ticketAt 3 0");
+        Scene shorter = longer.and("wish 1 0", "exchange 1");
+        tickets(shorter, 0, 1);
+        tickets(shorter, 1, 0);
+        tickets(shorter, 2, 2);
+        tickets(shorter, 3, 3, 0);
+        shorter.due(-1, "wish 2 0", "wish 3 0");
+    }
+
+    private static void termsAgainAfterARing() {
+        Scene ring = rows(3, 3).and(booked(1, 0, 0, 2), "wish 1 1", booked(2, 1, 1, 2), "wish 2 0", "exchange 1");
+        tickets(ring, 0, 2, 2, 0);
+        tickets(ring, 1, 0, 1, 1);
+        Scene twice = ring.and("wish 1 0", "wish 2 1", "exchange 2");
+        tickets(twice, 0, 1, 1, 0);
+        tickets(twice, 1, 0, 2, 2);
+        tickets(twice.and("cancel 2"), 1, 0, 0, 0);
     }
 
     /** All 100 tickets, ten in each of ten rows, wish for the next row. */

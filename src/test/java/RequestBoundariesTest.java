@@ -431,6 +431,9 @@ public final class RequestBoundariesTest {
         split(Scene.after("addRow 20 5 5", "addRow 20 5 5"), 21, 11, 10);
         split(Scene.after("addRow 6 0 5", "addRow 3 1000 5"), 7, 4, 3);
         split(Scene.after("addRow 4 0 5", "addRow 20 1000 5"), 21, 2, 19);
+        // With and without a fifth seat that is worth nothing the values are the same, so one seat would look as good.
+        split(Scene.after("addRow 1 0 5", "addRow 4 3 5", "addRow 2 1 5"), 5, 0, 3, 2);
+        split(Scene.after("addRow 4 3 5", "addRow 1 0 5", "addRow 2 1 5"), 5, 3, 0, 2);
     }
 
     /** "one block each is taken": never two of a row. */
@@ -474,6 +477,8 @@ public final class RequestBoundariesTest {
         split(Scene.after("addRow 20 0 5", "addRow 20 1 5"), 20, 0, 20);
         split(Scene.after("addRow 20 0 5", "addRow 20 1 5", "addRow 20 2 5"), 40, 0, 20, 20);
         split(Scene.after("addRow 4 2 5", "addRow 3 0 5", "addRow 3 1 5"), 3, 3, 0, 0);
+        split(Scene.after("addRow 10 50 5", "addRow 6 10 5", "addRow 6 10 5"), 17, 10, 4, 3);
+        split(Scene.after("addRow 6 10 5", "addRow 10 50 5", "addRow 6 10 5"), 17, 4, 10, 3);
     }
 
     /** "in the row with the lowest number among the rows in which they differ, the one that takes more seats". */
